@@ -177,7 +177,7 @@ public final class BeatDoubts {
             case 0:
                 return arrivals.beatOfNews[i];
             case 1:
-                return arrivals.timeOf(i);
+                return arrivals.timeOfNews[i];
             default:
                 return arrivals.gapCountBy(i);
         }
@@ -188,7 +188,7 @@ public final class BeatDoubts {
         if (!isWithin(i, 0, arrivals.newsCount - 1) || !isWithin(what, 0, 1)) {
             return asLong(BAD);
         }
-        return inLowestTerms(arrivals.aboveBy(i), arrivals.belowBy(i), what);
+        return inLowestTerms(arrivals.aboveBy[i], arrivals.belowBy[i], what);
     }
 
     public long score(int t, int what) {
@@ -200,7 +200,7 @@ public final class BeatDoubts {
         if (i == NONE || arrivals.gapCountBy(i) == 0) {
             return asLong(NOT);
         }
-        int fewer = arrivals.gapsBelow(i, t - arrivals.timeOf(i));
+        int fewer = arrivals.countGapsBelow(i, t - arrivals.timeOfNews[i]);
         return inLowestTerms(fewer, arrivals.gapCountBy(i), what);
     }
 
@@ -301,7 +301,7 @@ public final class BeatDoubts {
             case 0:
                 return diary.beginBy[i];
             case 1:
-                return arrivals.timeOf(i + 1);
+                return arrivals.timeOfNews[i + 1];
             default:
                 return i;
         }
@@ -363,10 +363,15 @@ public final class BeatDoubts {
     }
 
     public int longest(int w) {
-        return isWatcher(w) ? longestKeptBy(1 << w) : BAD;
+        if (!isWatcher(w)) {
+            return BAD;
+        }
+        weighPeriods();
+        return longestKeptBy(1 << w);
     }
 
     public int shared() {
+        weighPeriods();
         return longestKeptBy((1 << watcherCount) - 1);
     }
 
@@ -515,7 +520,7 @@ public final class BeatDoubts {
             case 5:
                 return whoKeepsWishes();
             case 6:
-                return arrivals.newsCount == 0 ? NONE : arrivals.timeOf(arrivals.newsCount - 1);
+                return arrivals.newsCount == 0 ? NONE : arrivals.timeOfNews[arrivals.newsCount - 1];
             case 7:
                 return countDoubtsForGood();
             case 8:
@@ -526,6 +531,7 @@ public final class BeatDoubts {
     }
 
     public long digest() {
+        followArrivals();
         long h = 17L;
         for (int what = 0; what <= 7; what++) {
             h = mix(h, count(what));
@@ -635,7 +641,6 @@ public final class BeatDoubts {
 
     /** The greatest PERIOD with which all of these WATCHERS would keep their WISHES, or NONE. */
     private int longestKeptBy(int bits) {
-        weighPeriods();
         for (int p = GREATEST_PERIOD; p >= 1; p--) {
             if ((keptBy[p] & bits) == bits) {
                 return p;
@@ -753,13 +758,16 @@ public final class BeatDoubts {
         return h;
     }
 
-    /** When BEATS came with a PERIOD, and which of them were NEWS. */
+    /** When BEATS came with a PERIOD, which of them were NEWS, and when the next one is EXPECTED. */
     private static final class Arrivals {
         final int[] timeOfBeat;
         final int[] newsOfBeat;
         final int[] beatOfNews;
-        /** By NEWS, how late all NEWS ahead of it were together, without itself. */
-        final int[] lateAhead;
+        final int[] timeOfNews;
+        /** EXPECTED by NEWS i is aboveBy[i] by belowBy[i], and wholeBy[i] the next whole time. */
+        final int[] aboveBy;
+        final int[] belowBy;
+        final int[] wholeBy;
         int newsCount;
         int period;
         int window;
@@ -768,8 +776,10 @@ public final class BeatDoubts {
             timeOfBeat = new int[MOST_BEATS];
             newsOfBeat = new int[MOST_BEATS];
             beatOfNews = new int[MOST_BEATS];
-            lateAhead = new int[MOST_BEATS + 1];
-            window = 1;
+            timeOfNews = new int[MOST_BEATS];
+            aboveBy = new int[MOST_BEATS];
+            belowBy = new int[MOST_BEATS];
+            wholeBy = new int[MOST_BEATS];
         }
 
         void follow(int[] delays, int beatCount, int period, int window, int silence) {
@@ -787,6 +797,7 @@ public final class BeatDoubts {
                 soonest = isNews ? time : soonest;
             }
             numberNews(beatCount);
+            expectNext();
         }
 
         private void numberNews(int beatCount) {
@@ -795,24 +806,32 @@ public final class BeatDoubts {
                 if (newsOfBeat[n] != NONE) {
                     newsOfBeat[n] = newsCount;
                     beatOfNews[newsCount] = n;
-                    lateAhead[newsCount + 1] = lateAhead[newsCount] + timeOfBeat[n] - n * period;
+                    timeOfNews[newsCount] = timeOfBeat[n];
                     newsCount++;
                 }
             }
         }
 
-        int timeOf(int i) {
-            return timeOfBeat[beatOfNews[i]];
-        }
-
-        int sentOf(int i) {
-            return beatOfNews[i] * period;
+        private void expectNext() {
+            int late = 0;
+            for (int i = 0; i < newsCount; i++) {
+                late += timeOfNews[i] - beatOfNews[i] * period;
+                int gone = i - window;
+                if (gone >= 0) {
+                    late -= timeOfNews[gone] - beatOfNews[gone] * period;
+                }
+                int below = Math.min(i + 1, window);
+                int above = late + below * (beatOfNews[i] + 1) * period;
+                aboveBy[i] = above;
+                belowBy[i] = below;
+                wholeBy[i] = below < 1 ? NEVER : (above + below - 1) / below;
+            }
         }
 
         /** The NEWS that are the latest at time t, or NONE. */
         int latestAt(int t) {
             int latest = NONE;
-            for (int i = 0; i < newsCount && timeOf(i) <= t; i++) {
+            for (int i = 0; i < newsCount && timeOfNews[i] <= t; i++) {
                 latest = i;
             }
             return latest;
@@ -822,42 +841,20 @@ public final class BeatDoubts {
             return Math.min(i, window);
         }
 
-        /** Between NEWS i, not the first, and the one ahead of it. */
-        int gapAt(int i) {
-            return timeOf(i) - timeOf(i - 1);
-        }
-
-        int gapsBelow(int i, int length) {
+        int countGapsBelow(int i, int length) {
             int fewer = 0;
-            for (int k = 0; k < gapCountBy(i); k++) {
-                if (gapAt(i - k) < length) {
+            for (int k = i; k > i - gapCountBy(i); k--) {
+                if (timeOfNews[k] - timeOfNews[k - 1] < length) {
                     fewer++;
                 }
             }
             return fewer;
         }
 
-        /** EXPECTED by NEWS i is aboveBy(i) by belowBy(i). */
-        int aboveBy(int i) {
-            int below = belowBy(i);
-            int late = lateAhead[i + 1] - lateAhead[i + 1 - below];
-            return late + below * (sentOf(i) + period);
-        }
-
-        int belowBy(int i) {
-            return Math.min(i + 1, window);
-        }
-
-        /** The least whole time that is no less than EXPECTED by NEWS i. */
-        int expectedUp(int i) {
-            int below = belowBy(i);
-            return below < 1 ? NEVER : (aboveBy(i) + below - 1) / below;
-        }
-
         /** OFF of the BEAT that is NEWS i, not the first. */
         double offOf(int i) {
-            int below = belowBy(i - 1);
-            int above = timeOf(i) * below - aboveBy(i - 1);
+            int below = belowBy[i - 1];
+            int above = timeOfNews[i] * below - aboveBy[i - 1];
             return below < 1 ? 0.0 : (double) above / (double) below;
         }
     }
@@ -872,15 +869,16 @@ public final class BeatDoubts {
         }
 
         /** From GAPS by the NEWS ahead of NEWS i to those by NEWS i. */
-        void moveOnTo(Arrivals arrivals, int i) {
+        void moveOnTo(int i, int[] timeOfNews, int window) {
             if (i == 0) {
                 size = 0;
                 return;
             }
-            if (i > arrivals.window) {
-                takeOut(arrivals.gapAt(i - arrivals.window));
+            int gone = i - window;
+            if (gone >= 1) {
+                takeOut(timeOfNews[gone] - timeOfNews[gone - 1]);
             }
-            takeIn(arrivals.gapAt(i));
+            takeIn(timeOfNews[i] - timeOfNews[i - 1]);
         }
 
         private void takeOut(int gap) {
@@ -888,10 +886,13 @@ public final class BeatDoubts {
             while (at < size && row[at] != gap) {
                 at++;
             }
+            if (at >= size) {
+                return;
+            }
             for (int k = at + 1; k < size; k++) {
                 row[k - 1] = row[k];
             }
-            size = Math.max(size - 1, 0);
+            size--;
         }
 
         private void takeIn(int gap) {
@@ -939,28 +940,30 @@ public final class BeatDoubts {
             lag = NONE;
             doubtForGood = NONE;
             for (int i = 0; i < arrivals.newsCount; i++) {
+                if (sort == BY_SHARE) {
+                    gaps.moveOnTo(i, arrivals.timeOfNews, arrivals.window);
+                }
                 int begin = beginOfDoubt(arrivals, i, sort, measure);
                 beginBy[i] = begin;
                 if (begin != NONE) {
-                    lag = Math.max(lag, begin - arrivals.sentOf(i));
+                    lag = Math.max(lag, begin - arrivals.beatOfNews[i] * arrivals.period);
                     noteDoubt(arrivals, i, begin);
                 }
             }
         }
 
         private int beginOfDoubt(Arrivals arrivals, int i, int sort, int measure) {
-            int time = arrivals.timeOf(i);
+            int time = arrivals.timeOfNews[i];
             switch (sort) {
                 case BY_MARGIN:
-                    return Math.max(time, arrivals.expectedUp(i) + measure);
+                    return Math.max(time, arrivals.wholeBy[i] + measure);
                 case BY_SHARE:
-                    gaps.moveOnTo(arrivals, i);
                     int length = gaps.lengthAbove(measure);
                     return length == NONE ? NONE : time + length;
                 case BY_TIME:
                     return time + measure;
                 default:
-                    return Math.max(time, arrivals.expectedUp(i) + measure * (mistakeCount + 1));
+                    return Math.max(time, arrivals.wholeBy[i] + measure * (mistakeCount + 1));
             }
         }
 
@@ -969,7 +972,7 @@ public final class BeatDoubts {
                 doubtForGood = begin;
                 return;
             }
-            int lasted = arrivals.timeOf(i + 1) - begin;
+            int lasted = arrivals.timeOfNews[i + 1] - begin;
             if (lasted > 0) {
                 newsOfMistake[mistakeCount] = i;
                 mistakeCount++;

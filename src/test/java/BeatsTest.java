@@ -69,6 +69,7 @@ public final class BeatsTest {
                 delay(3, 0) = BAD; delay(-1, 0) = BAD; delay(0, 100) = BAD; delay(0, -2) = BAD
                 delay(MAX, 0) = BAD; delay(MIN, 0) = BAD; delay(0, MIN) = BAD; delay(2, MAX) = BAD
                 came(0, 0) = 3; came(2, 0) = 5
+                delay(0, 6) = 3; came(0, 1) = 6; delay(2, -1) = 5; count(2) = 2; delay(2, 5) = -1; count(2) = 3
                 silence(10) = NONE; came(1, 0) = NONE; delay(1, 8) = 0; delay(1, 9) = 8; came(1, 0) = NONE
                 silence(NONE) = 10; came(1, 0) = 9; came(1, 1) = 19
                 """);
@@ -77,7 +78,7 @@ public final class BeatsTest {
     private static void back() throws Exception {
         RUNS.of("5 back", """
                 back() = NOT
-                beats(1, 1, 3) = 3; back() = 2; came(2, 0) = BAD; count(2) = 2
+                beats(1, 1, 3) = 3; count(2) = 3; back() = 2; came(2, 0) = BAD; count(2) = 2; news(2, 0) = BAD
                 beat(50) = 3; came(2, 0) = 50; back() = 2; back() = 1; back() = 0; back() = NOT; count(0) = 0
                 """);
     }

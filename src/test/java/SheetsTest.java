@@ -132,6 +132,10 @@ public final class SheetsTest {
                 found(1, 1, MIN) = 5; found(1, 2, MAX) = 5; found(1, 1, MAX) = 0; found(1, 2, MIN) = 0
                 found(1, 1, -109) = 4; found(1, 1, -108) = 3; found(1, 2, -108) = 1; found(1, 2, -107) = 2
                 """);
+        RUNS.of("32 found, from the first to the last", """
+                sheet(2, 1, 40) = 40; put(2, 1, 0, -1) = 1; put(2, 1, 39, -1) = 1; found(2, 2, 0) = 2; found(2, 1, -1) = 38
+                put(2, 1, 0, 1) = 1; put(2, 1, 39, 1) = 1; found(2, 1, 0) = 2; found(2, 2, 1) = 38; found(2, 0, 0) = 0
+                """);
         // OFF is four thirds: more than 10 by 8, less than 11 by 8.
         RUNS.of("32 found, between eighths", """
                 beat(4) = 1; beat(6) = 2; beat(10) = 3; beat(8) = 4; sheet(0, 1, 4) = 4; write(0) = 3; put(0, 1, 1, 0) = 1

@@ -141,6 +141,21 @@ public final class WatchersTest {
                 set(1, 2) = 4; watcher(1, 10) = 0; beat(0) = 1; beat(30) = 2; beat(30) = 3; beat(30) = 4; beat(31) = 5
                 limit(0, 1) = 81; limit(0, 2) = 91; limit(0, 3) = 71; limit(0, 4) = 83; set(1, 3) = 2; limit(0, 3) = 101
                 """);
+        // GAPS of 15, 5, 25, 5, 2, 17, 1.
+        RUNS.of("19 limit, GAPS that come and go", """
+                set(1, 3) = 4; watcher(1, 5) = 0; watcher(1, 1) = 1; watcher(1, 10) = 2
+                beat(0) = 1; beat(5) = 2; beat(0) = 3; beat(15) = 4; beat(10) = 5; beat(2) = 6; beat(9) = 7; beat(0) = 8
+                limit(0, 0) = NONE; limit(0, 1) = 31; limit(0, 2) = 26; limit(0, 3) = 61; limit(0, 4) = 56
+                limit(0, 5) = 58; limit(0, 6) = 75; limit(0, 7) = 73
+                limit(1, 1) = 31; limit(1, 2) = 26; limit(1, 3) = 51; limit(1, 4) = 56; limit(1, 5) = 55
+                limit(1, 6) = 72; limit(1, 7) = 72
+                limit(2, 1) = 31; limit(2, 2) = 36; limit(2, 3) = 71; limit(2, 4) = 76; limit(2, 5) = 78
+                limit(2, 6) = 87; limit(2, 7) = 88
+                """);
+        RUNS.of("19 limit, the widest WINDOW", """
+                set(1, 16) = 4; watcher(1, 10) = 0; beat(0) = 1; beat(-1) = 2; beat(-1) = 3; beat(-1) = 4
+                beats(0, 0, 18) = 18; news(16, 0) = 19; limit(0, 16) = 231; limit(0, 17) = 211; news(17, 2) = 16
+                """);
     }
 
     private static void doubts() throws Exception {
@@ -150,6 +165,10 @@ public final class WatchersTest {
                 doubts(77) = 4; doubts(78) = 5; doubts(87) = 5; doubts(88) = 13; doubts(94) = 13; doubts(95) = 15
                 doubts(6000) = 15; doubts(6001) = BAD; doubts(-1) = BAD; doubts(MIN) = BAD; doubts(MAX) = BAD
                 watcher(0, 0) = 4; doubts(78) = 21; leaves() = 4; doubts(78) = 5
+                """);
+        RUNS.of("20 doubts, by the first NEWS", """
+                beat(3) = 1; watcher(2, 4) = 0; watcher(0, 9) = 1; doubts(3) = 0; doubts(6) = 0; doubts(7) = 1
+                doubts(21) = 1; doubts(22) = 3; beat(10) = 2; doubts(19) = 1; doubts(20) = 0
                 """);
     }
 

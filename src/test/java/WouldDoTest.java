@@ -54,6 +54,11 @@ public final class WouldDoTest {
                 silence(16) = NONE; longest(0) = 50; longest(1) = 17; silence(50) = 16; longest(0) = 50
                 silence(51) = 50; longest(0) = 15; silence(0) = 51; longest(0) = 50; longest(1) = 50
                 """);
+        RUNS.of("23 longest, the shortest PERIOD", """
+                beats(0, 0, 5) = 5; watcher(0, 3) = 0; wish(0, 0, 4) = NONE; longest(0) = 1; shared() = 1; saved() = 0
+                watcher(2, 1) = 1; wish(1, 1, 0) = NONE; longest(1) = 1; shared() = 1; saved() = 1001
+                wish(0, 0, 3) = 4; longest(0) = NONE; shared() = NONE
+                """);
         RUNS.of("23 longest, by DELAYS and what is LOST", """
                 beat(9) = 1; beat(0) = 2; watcher(2, 30) = 0; wish(0, 1, 0) = NONE; longest(0) = 39
                 delay(1, 4) = 0; longest(0) = 35; beat(0) = 3; delay(1, -1) = 4; longest(0) = 19
