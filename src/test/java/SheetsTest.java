@@ -153,6 +153,11 @@ public final class SheetsTest {
                 silence(0) = 10; count(0) = 7; count(1) = 7; count(2) = 0; count(6) = NONE; count(7) = 0
                 count(9) = BAD; count(-1) = BAD; count(MIN) = BAD; count(MAX) = BAD
                 """);
+        RUNS.of("33 count, of what is there alone", BeatsTest.SEVEN + """
+                watcher(2, 1) = 0; watcher(2, 1) = 1; wish(1, 0, 0) = NONE; count(4) = 2; count(5) = 1; count(7) = 2
+                leaves() = 1; count(4) = 1; count(5) = 1; count(7) = 1
+                back() = 6; back() = 5; back() = 4; count(1) = 1; back() = 3; count(1) = 0; count(2) = 3; count(6) = 25
+                """);
         RUNS.of("33 count, FINDINGS", """
                 count(8) = 0; lose(0) = NULL; count(8) = 1; sheet(0, 1, 2) = 2; count(8) = 1; get(0, 2) = INDEX; count(8) = 2
                 read(0) = CAST; count(8) = 3; sheet(1, 0, 1) = 1; copy(0, 0, 1, 0, 0) = STORE; count(8) = 4

@@ -141,7 +141,7 @@ public final class WatchersTest {
                 set(1, 2) = 4; watcher(1, 10) = 0; beat(0) = 1; beat(30) = 2; beat(30) = 3; beat(30) = 4; beat(31) = 5
                 limit(0, 1) = 81; limit(0, 2) = 91; limit(0, 3) = 71; limit(0, 4) = 83; set(1, 3) = 2; limit(0, 3) = 101
                 """);
-        // GAPS of 15, 5, 25, 5, 2, 17, 1.
+        // GAPS of 15, 5, 25, 5, 2, 17, 1, and then three of 10.
         RUNS.of("19 limit, GAPS that come and go", """
                 set(1, 3) = 4; watcher(1, 5) = 0; watcher(1, 1) = 1; watcher(1, 10) = 2
                 beat(0) = 1; beat(5) = 2; beat(0) = 3; beat(15) = 4; beat(10) = 5; beat(2) = 6; beat(9) = 7; beat(0) = 8
@@ -151,6 +151,8 @@ public final class WatchersTest {
                 limit(1, 6) = 72; limit(1, 7) = 72
                 limit(2, 1) = 31; limit(2, 2) = 36; limit(2, 3) = 71; limit(2, 4) = 76; limit(2, 5) = 78
                 limit(2, 6) = 87; limit(2, 7) = 88
+                beats(0, 0, 3) = 3; limit(0, 8) = 91; limit(1, 8) = 82; limit(2, 8) = 98
+                limit(0, 10) = 111; limit(1, 10) = 111; limit(2, 10) = 111
                 """);
         RUNS.of("19 limit, the widest WINDOW", """
                 set(1, 16) = 4; watcher(1, 10) = 0; beat(0) = 1; beat(-1) = 2; beat(-1) = 3; beat(-1) = 4
