@@ -1,3 +1,4 @@
+import java.math.BigInteger;
 import java.util.ArrayList;
 import java.util.List;
 
@@ -8,6 +9,8 @@ public final class DigestTest {
     public static void main(String[] args) {
         ofNewObject();
         ofOneThatWasUsed();
+        ofOneThatIsFull();
+        wraps();
         changesNothing();
         RUNS.end("DigestTest");
     }
@@ -59,6 +62,38 @@ public final class DigestTest {
         RUNS.due("34 digest with less", x.digest(), composed(x));
     }
 
+    private static BeatDoubts full() {
+        BeatDoubts x = new BeatDoubts();
+        x.set(1, 1);
+        x.beats(0, 1, 40);
+        x.watcher(0, 0);
+        x.watcher(1, 1);
+        x.watcher(2, 1);
+        x.watcher(3, 0);
+        x.watcher(0, 99);
+        return x;
+    }
+
+    private static void ofOneThatIsFull() {
+        BeatDoubts x = full();
+        RUNS.due("34 digest of all that there is room for", x.digest(), composed(x));
+        RUNS.due("34 as many MISTAKES as can be", x.info(3, 4), 39);
+        x.wish(4, 0, 0);
+        RUNS.due("34 digest, refusals as they are answered", x.saved(), Integer.MIN_VALUE);
+        RUNS.due("34 digest with nothing SHARED", x.digest(), composed(x));
+    }
+
+    /** The same sum without any wrapping, cut to a long at the end. */
+    private static void wraps() {
+        BeatDoubts x = full();
+        BigInteger h = BigInteger.valueOf(17);
+        for (long v : toldOf(x)) {
+            h = h.multiply(BigInteger.valueOf(31)).add(BigInteger.valueOf(v));
+        }
+        RUNS.due("34 more than a long holds", h.bitLength() > 64 ? 1 : 0, 1);
+        RUNS.due("34 as longs that wrap", x.digest(), h.longValue());
+    }
+
     private static void changesNothing() {
         BeatDoubts x = used();
         BeatDoubts y = used();
@@ -74,6 +109,14 @@ public final class DigestTest {
     }
 
     private static long composed(BeatDoubts x) {
+        long h = 17;
+        for (long v : toldOf(x)) {
+            h = 31 * h + v;
+        }
+        return h;
+    }
+
+    private static List<Long> toldOf(BeatDoubts x) {
         List<Long> told = new ArrayList<>();
         for (int what = 0; what <= 7; what++) {
             told.add((long) x.count(what));
@@ -104,10 +147,6 @@ public final class DigestTest {
             told.addAll(List.of((long) x.least(sort, 0), (long) x.least(sort, 2)));
         }
         told.addAll(List.of((long) x.shared(), (long) x.saved()));
-        long h = 17;
-        for (long v : told) {
-            h = 31 * h + v;
-        }
-        return h;
+        return told;
     }
 }

@@ -1,7 +1,5 @@
 import java.lang.reflect.Method;
-import java.lang.reflect.Modifier;
 import java.util.ArrayList;
-import java.util.Comparator;
 import java.util.List;
 import java.util.Random;
 
@@ -20,16 +18,12 @@ public final class ModelTest {
 
     private ModelTest(long seed) {
         random = new Random(seed);
-        for (Method m : BeatDoubts.class.getDeclaredMethods()) {
-            if (Modifier.isPublic(m.getModifiers())) {
-                int times = OFTEN.contains(m.getName()) ? 4 : SELDOM.contains(m.getName()) ? 1 : 2;
-                for (int k = 0; k < times; k++) {
-                    calls.add(m);
-                }
+        for (Method m : Runs.face()) {
+            int times = OFTEN.contains(m.getName()) ? 4 : SELDOM.contains(m.getName()) ? 1 : 2;
+            for (int k = 0; k < times; k++) {
+                calls.add(m);
             }
         }
-        // The machine may tell methods in any order; a run is the same one every time.
-        calls.sort(Comparator.comparing(Method::getName));
     }
 
     public static void main(String[] args) throws Exception {
@@ -49,9 +43,8 @@ public final class ModelTest {
             for (int a = 0; a < arguments.length; a++) {
                 arguments[a] = argument(asked.getName(), a, arguments);
             }
-            Method told = Model.class.getDeclaredMethod(asked.getName(), asked.getParameterTypes());
-            long got = ((Number) asked.invoke(x, arguments)).longValue();
-            long want = ((Number) told.invoke(model, arguments)).longValue();
+            long got = Runs.ask(asked, x, arguments);
+            long want = Runs.ask(Runs.ofModel(asked), model, arguments);
             String name = "run " + run + ", call " + k + ": " + asked.getName() + java.util.Arrays.toString(arguments);
             runs.due(name, got, want);
         }
