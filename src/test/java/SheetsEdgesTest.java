@@ -37,6 +37,11 @@ public final class SheetsEdgesTest {
                 sheet(1, 1, 0) = 0; get(1, 0) = INDEX; sheet(1, 1, 40) = 40; get(1, 39) = 0; get(1, 40) = INDEX
                 sheet(0, 0, 41) = BAD; sheet(0, 0, -1) = SIZE; sheet(1, 1, 41) = BAD; sheet(1, 1, -1) = SIZE
                 """);
+        RUNS.of("items (0 at first), whatever the row was before", """
+                sheet(0, 1, 3) = 3; put(0, 1, 0, 5) = 1; put(0, 1, 2, 6) = 1; sheet(0, 1, 3) = 3; get(0, 0) = 0; get(0, 2) = 0
+                put(0, 1, 0, 5) = 1; lose(0) = 3; sheet(0, 1, 3) = 3; get(0, 0) = 0; beat(0) = 1; write(0) = 0; get(0, 0) = NONE
+                sheet(0, 1, 3) = 3; get(0, 0) = 0; sheet(0, 0, 3) = 3; put(0, 0, 0, 5) = 1; sheet(0, 0, 3) = 3; get(0, 0) = 0
+                """);
         RUNS.of("items (0 at first)", """
                 sheet(0, 1, 40) = 40; found(0, 0, 0) = 0; found(0, 1, 0) = 0; found(0, 2, 0) = 0; found(0, 1, -1) = 40
                 sheet(1, 0, 40) = 40; get(1, 0) = 0; get(1, 39) = 0; read(1) = 40; came(0, 0) = 0; came(39, 0) = 0
@@ -259,6 +264,10 @@ public final class SheetsEdgesTest {
         RUNS.of("32 less (2)", three + """
                 found(0, 2, 0) = 0; found(0, 2, 1) = 2; found(0, 2, 40) = 2; found(0, 2, 41) = 3; found(0, 2, MAX) = 3
                 found(0, 2, MIN) = 0; sheet(1, 1, 0) = 0; found(1, 2, MAX) = 0
+                """);
+        RUNS.of("32 greater, less: the first item and the last one, too", """
+                sheet(0, 1, 40) = 40; put(0, 1, 0, -1) = 1; found(0, 2, 0) = 1; put(0, 1, 39, -1) = 1; found(0, 2, 0) = 2
+                put(0, 1, 0, 1) = 1; found(0, 1, 0) = 1; put(0, 1, 39, 1) = 1; found(0, 1, 0) = 2
                 """);
         RUNS.of("32 BAD", three + """
                 found(-1, 0, 0) = BAD; found(4, 0, 0) = BAD; found(MIN, 0, 0) = BAD; found(MAX, 0, 0) = BAD

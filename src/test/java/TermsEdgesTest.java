@@ -224,6 +224,12 @@ public final class TermsEdgesTest {
                 set(1, 5) = 4; measure(0, 2) = 10; limit(0, 10) = 172; measure(0, 3) = 2; limit(0, 10) = 173
                 measure(0, 4) = 3; limit(0, 10) = 173; measure(0, 5) = 4; limit(0, 10) = 174
                 """);
+        // GAPS of 14, 13, 12, 11: the least of them are the latest.
+        RUNS.of("MEASURE tenths or more, of GAPS that fall", """
+                watcher(1, 1) = 0; beat(0) = 1; beat(4) = 2; beat(7) = 3; beat(9) = 4; beat(10) = 5; limit(0, 4) = 62
+                measure(0, 3) = 1; limit(0, 4) = 63; measure(0, 5) = 3; limit(0, 4) = 63; measure(0, 6) = 5; limit(0, 4) = 64
+                measure(0, 8) = 6; limit(0, 4) = 65
+                """);
         RUNS.of("MEASURE tenths or more, of one GAP", "set(1, 1) = 4; watcher(1, 1) = 0\n" + RISING + """
                 limit(0, 10) = 176; measure(0, 10) = 1; limit(0, 10) = 176; limit(0, 1) = 23
                 """);
