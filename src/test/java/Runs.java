@@ -109,6 +109,10 @@ final class Runs {
         return text.equals("MIN") ? Integer.MIN_VALUE : Long.parseLong(text);
     }
 
+    static int numberOf(String refusal) {
+        return NAMES.getOrDefault(refusal, 0);
+    }
+
     void due(String what, long got, long want) {
         calls++;
         if (got != want) {
